@@ -91,7 +91,7 @@ public final class StepTest {
         due("REGISTER 3 behind step that failed", x, 3, "0");
         CHECK.fails("step to SIZE 7,603 onto itself", BEYOND, () -> x.step(2, 2));
         CHECK.equal("SIZE behind step that failed", x.about(2, 0), 1909);
-        // (.6 a) is smaller behind the STEP, and so is what is made of a term that is nearly too great.
+        // What drops a great term makes a small one.
         Terms.set(x, 1, ".6");
         x.apply(2, 1, 0);
         CHECK.equal("step that drops", x.step(2, 2), true);
@@ -105,12 +105,11 @@ public final class StepTest {
         x.apply(2, 1, 2);
         Terms.sized(x, 3, 1, more);
         x.apply(4, 2, 3);
+        x.bind(4, 4, 9);
         if (beyond) {
-            x.bind(4, 4, 9);
             CHECK.fails("step of a part to SIZE 2,001", BEYOND, () -> x.step(0, 4));
             due("REGISTER behind step of a part that failed", x, 0, "6");
         } else {
-            x.bind(4, 4, 9);
             CHECK.equal("step of a part to SIZE 2,000", x.step(0, 4), true);
             CHECK.equal("SIZE behind step of a part", x.about(0, 0), 2000);
         }
