@@ -13,6 +13,7 @@ public final class ModelTest {
     private final BindingBench bench = new BindingBench();
     private final Model model = new Model();
     private final boolean deep;
+    private final boolean great;
     private final int registers;
     private final int frees;
     private int length;
@@ -24,12 +25,10 @@ public final class ModelTest {
         chance = new Random(run);
         // Some runs bind so often that they come to the greatest DEPTH by FUNCTIONS alone.
         deep = run % 8 == 7;
+        // Some begin with terms of which few more make one beyond.
+        great = run % 4 == 1;
         registers = deep ? 2 : 3 + chance.nextInt(14);
         frees = 1 + chance.nextInt(6);
-    }
-
-    private interface Call {
-        int answer();
     }
 
     public static void main(String[] args) {
@@ -38,7 +37,8 @@ public final class ModelTest {
         int runs = args.length > 0 ? Integer.parseInt(args[0]) : 400;
         for (int run = 0; run < runs; run++) {
             ModelTest test = new ModelTest(check, seen, run);
-            for (int i = 0; i < CALLS; i++) {
+            int before = test.great ? test.makeGreat() : 0;
+            for (int i = before; i < CALLS; i++) {
                 test.call();
             }
         }
@@ -71,20 +71,25 @@ public final class ModelTest {
         return kind < 10 ? chance.nextInt(100) : chance.nextInt(frees);
     }
 
-    private void compare(String name, Call got, Call due) {
-        String answer = answer(got);
-        String dueAnswer = answer(due);
+    private void compare(String name, Shown.Call got, Shown.Call due) {
+        String answer = Shown.answer(got);
+        String dueAnswer = Shown.answer(due);
         String kind = dueAnswer.startsWith("java") ? dueAnswer.substring(dueAnswer.lastIndexOf('.') + 1) : "answered";
         seen.merge(name.substring(0, name.indexOf('(')) + " " + kind, 1, Integer::sum);
         check.equal("run " + run + ": " + name, answer, dueAnswer);
     }
 
-    private static String answer(Call call) {
-        try {
-            return Integer.toString(call.answer());
-        } catch (RuntimeException e) {
-            return e.getClass().getName();
+    /** REGISTERS 0 and 1 with SIZE 1,023 and with DEPTH 121 to 150: how many calls. */
+    private int makeGreat() {
+        int doublings = 9;
+        int functions = 120 + chance.nextInt(30);
+        for (int i = 0; i < doublings; i++) {
+            apply(0, 0, 0);
         }
+        for (int i = 0; i < functions; i++) {
+            bind(1, 1, 1);
+        }
+        return doublings + functions;
     }
 
     private static int number(boolean answer) {
@@ -114,9 +119,9 @@ public final class ModelTest {
                 return 0;
             }, () -> model.free(to, n));
         } else if (kind < BIND) {
-            compare("apply(" + to + ", " + a + ", " + b + ")", () -> bench.apply(to, a, b), () -> model.apply(to, a, b));
+            apply(to, a, b);
         } else if (kind < 44) {
-            compare("bind(" + to + ", " + a + ", " + n + ")", () -> bench.bind(to, a, n), () -> model.bind(to, a, n));
+            bind(to, a, n);
         } else if (kind < 49) {
             compare("put(" + to + ", " + a + ", " + n + ", " + b + ")",
                 () -> bench.put(to, a, n, b), () -> model.put(to, a, n, b));
@@ -128,6 +133,14 @@ public final class ModelTest {
                 return 0;
             }, () -> model.part(to, a, second));
         }
+    }
+
+    private void apply(int to, int a, int b) {
+        compare("apply(" + to + ", " + a + ", " + b + ")", () -> bench.apply(to, a, b), () -> model.apply(to, a, b));
+    }
+
+    private void bind(int to, int a, int n) {
+        compare("bind(" + to + ", " + a + ", " + n + ")", () -> bench.bind(to, a, n), () -> model.bind(to, a, n));
     }
 
     private void reduce(int kind) {

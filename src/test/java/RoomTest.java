@@ -4,10 +4,6 @@ import java.lang.management.ManagementFactory;
 public final class RoomTest {
     private static final int CALLS = 300;
 
-    private interface Call {
-        void run(BindingBench x);
-    }
-
     public static void main(String[] args) {
         Check check = new Check();
         // The first round is for what Java itself makes when a class is first used.
@@ -29,30 +25,26 @@ public final class RoomTest {
         }
     }
 
-    private static void repeat(BindingBench x, Call call) {
+    private static void repeat(BindingBench x, Calls call) {
         for (int i = 0; i < CALLS; i++) {
             try {
-                call.run(x);
+                call.on(x);
             } catch (RuntimeException e) {
                 // What a call throws is told by other tests.
             }
         }
     }
 
-    private static void bytes(Check check, String what, long most, Call calls) {
+    private static void bytes(Check check, String what, long most, Calls calls) {
         com.sun.management.ThreadMXBean threads =
             (com.sun.management.ThreadMXBean) ManagementFactory.getThreadMXBean();
         BindingBench x = new BindingBench();
         Terms.sized(x, 0, 1, 1900);
         Terms.set(x, 1, "(.(' ') .(' '))");
         x.apply(2, 0, 1);
-        Terms.tree(x, 4, 1, 10);
-        for (int i = 0; i < 139; i++) {
-            x.bind(4, 4, 2);
-        }
-        x.bind(4, 4, 1);
+        Terms.longText(x, 4);
         long before = threads.getThreadAllocatedBytes(Thread.currentThread().getId());
-        calls.run(x);
+        calls.on(x);
         long used = threads.getThreadAllocatedBytes(Thread.currentThread().getId()) - before;
         if (used > most) {
             check.report(what + ": " + CALLS + " calls made " + used + " bytes, at most " + most + " are due");

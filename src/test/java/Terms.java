@@ -4,6 +4,8 @@ final class Terms {
     private static final int WORK = 10;
     /** A FREE that no text of a test has. */
     private static final int UNUSED = 70;
+    /** A FREE in whose place something is put while a term is made. */
+    private static final int HOLE = 69;
 
     private final BindingBench bench;
     private final String written;
@@ -84,46 +86,72 @@ final class Terms {
         return text.toString();
     }
 
+    /** A unit with the next one in place of its FREE HOLE, so many times, and the innermost text in the last. */
+    static void nested(BindingBench bench, int to, String unit, int times, String innermost) {
+        set(bench, 9, unit);
+        bench.free(to, HOLE);
+        for (int bit = Integer.highestOneBit(times); bit > 0; bit >>= 1) {
+            bench.put(to, to, HOLE, to);
+            if ((times & bit) != 0) {
+                bench.put(to, to, HOLE, 9);
+            }
+        }
+        set(bench, 9, innermost);
+        bench.put(to, to, HOLE, 9);
+    }
+
     /** (.. ((n n) n) .. n), of SIZE 2 depth - 1 and the DEPTH that is asked for. */
     static void chain(BindingBench bench, int to, int n, int depth) {
-        bench.free(to, n);
-        bench.free(WORK, n);
-        for (int i = 1; i < depth; i++) {
-            bench.apply(to, to, WORK);
+        nested(bench, to, "(" + HOLE + " " + n + ")", depth - 1, Integer.toString(n));
+    }
+
+    /** (.' (.' .. .')) with so many STEPS, all of the HEAD, up to .'; of SIZE 3 steps + 2. */
+    static void unwrapped(BindingBench bench, int to, int steps) {
+        nested(bench, to, "(.' " + HOLE + ")", steps, ".'");
+    }
+
+    /** As unwrapped, for more STEPS (201 .. 340) than the greatest DEPTH lets one have; of SIZE 3 steps + 2. */
+    static void longHead(BindingBench bench, int to, int steps) {
+        // ((a b) c): those of a, one for (.' b), those of b, one for (.' c), those of c.
+        unwrapped(bench, 8, 99);
+        bench.apply(8, 8, 8);
+        unwrapped(bench, to, steps - 200);
+        bench.apply(to, 8, to);
+    }
+
+    /** (a b) of (a b) .. with a unit at just so many places, of a small DEPTH. */
+    static void copies(BindingBench bench, int to, String unit, int places) {
+        set(bench, 9, unit);
+        boolean empty = true;
+        for (int left = places; left > 0; left >>= 1) {
+            if (left % 2 != 0 && empty) {
+                copy(bench, to, 9);
+                empty = false;
+            } else if (left % 2 != 0) {
+                bench.apply(to, to, 9);
+            }
+            if (left > 1) {
+                bench.apply(9, 9, 9);
+            }
         }
     }
 
-    /** A term of DEPTH doublings and SIZE 2 ^ doublings - 1, of FREE n alone. */
-    static void tree(BindingBench bench, int to, int n, int doublings) {
-        bench.free(to, n);
-        for (int i = 1; i < doublings; i++) {
-            bench.apply(to, to, to);
-        }
-    }
-
-    /** A term of SIZE 1,999 with 1,000 places of FREE n and no FUNCTION. */
-    static void greatest(BindingBench bench, int to, int n) {
-        // 1,000 = 512 + 256 + 128 + 64 + 32 + 8.
-        int[] doublings = {10, 9, 8, 7, 6, 4};
-        tree(bench, to, n, doublings[0]);
-        for (int i = 1; i < doublings.length; i++) {
-            tree(bench, WORK, n, doublings[i]);
-            bench.apply(to, to, WORK);
-        }
-    }
-
-    /** A term of just this SIZE and a DEPTH below 30, without a STEP. */
+    /** A term of just this SIZE (not 2) and a DEPTH below 30, that has no STEP and makes none where it is put. */
     static void sized(BindingBench bench, int to, int n, int size) {
         if (size == 1) {
             bench.free(to, n);
         } else if (size % 2 == 0) {
-            sized(bench, to, n, size - 1);
+            // (n .t)
+            sized(bench, to, n, size - 3);
             bench.bind(to, to, UNUSED);
-        } else if (size == 3) {
-            bench.free(to, n);
+            bench.free(WORK, n);
+            bench.apply(to, WORK, to);
+        } else if (size % 4 == 3) {
+            // (t t)
+            sized(bench, to, n, (size - 1) / 2);
             bench.apply(to, to, to);
         } else {
-            // ((n t) t): no FUNCTION is a first part.
+            // ((n t) t)
             sized(bench, to, n, (size - 3) / 2);
             bench.free(WORK, n);
             bench.apply(WORK, WORK, to);
@@ -131,31 +159,11 @@ final class Terms {
         }
     }
 
-    /** ..('' ('' .. ('' '))) with n times ''. */
-    static void numeral(BindingBench bench, int to, int n) {
-        bench.free(to, 0);
-        bench.free(WORK, 1);
-        for (int i = 0; i < n; i++) {
-            bench.apply(to, WORK, to);
-        }
-        bench.bind(to, to, 0);
+    /** A term of DEPTH 150 that is WRITTEN with 140 marks at 512 places. */
+    static void longText(BindingBench bench, int to) {
+        nested(bench, 8, ".69", 139, "1");
+        copies(bench, to, "1", 512);
+        bench.put(to, 8, 1, to);
         bench.bind(to, to, 1);
-    }
-
-    /** A term with (.' 5) at 300 places, of SIZE 1,499. */
-    static void manyRedexes(BindingBench bench, int to) {
-        // 300 = 256 + 32 + 8 + 4.
-        int[] doublings = {8, 5, 3, 2};
-        for (int i = 0; i < doublings.length; i++) {
-            set(bench, 9, "(.' 5)");
-            for (int j = 0; j < doublings[i]; j++) {
-                bench.apply(9, 9, 9);
-            }
-            if (i == 0) {
-                copy(bench, to, 9);
-            } else {
-                bench.apply(to, to, 9);
-            }
-        }
     }
 }
